@@ -28,6 +28,10 @@ public final class CityTest {
         insideOneSide();
         staysEnd();
         passesLapse();
+        passesOfOthers();
+        slotsAnew();
+        newsInOrder();
+        kinOfMany();
         due.end();
     }
 
@@ -655,5 +659,147 @@ public final class CityTest {
         y.ask(pass, street);
         y.run(19);
         due.is("21: streets come ahead of passes that lapse", y.told(pass, 6), 1);
+    }
+
+    /** A pass with which one waited once does nothing to one who waits with it no more. */
+    private static void passesOfOthers() {
+        CutCity x = city();
+        int inside = x.tie(1, 0, 2, 1);
+        int cut = x.tie(1, 0, 1, 0);
+        int over = x.tie(1, 0, 1, 1);
+        int first = x.pass(0, 1, 2, 0);
+        int second = x.pass(0, 1, 9, 0);
+        int third = x.pass(0, 3, 9, 0);
+        x.ask(first, inside);
+        x.run(1);
+        x.ask(second, cut);
+        x.run(2);
+        due.is("21c: at home", x.is(0, 3), 0);
+        x.ask(third, over);
+        x.run(1);
+        due.is("16: abroad", x.is(0, 3), 1);
+        due.is("16: take", x.take(second), 1);
+        due.is("16: abroad still", x.is(0, 3), 1);
+        int last = x.pass(2, 1, 9, 0);
+        x.ask(last, cut);
+        x.die(2);
+        due.is("16: of the dead", x.take(last), 1);
+        due.is("16: who stay dead", x.is(2, 3), NONE);
+        CutCity y = city();
+        int lapsing = y.tie(1, 0, 1, 0);
+        int pass = y.pass(0, 1, 9, 0);
+        y.ask(pass, lapsing);
+        y.die(0);
+        y.run(25);
+        due.is("21d: of the dead", y.told(pass, 6), 2);
+        due.is("21d: who stay dead", y.is(0, 3), NONE);
+        CutCity z = city();
+        due.is("21d: the first tie", z.pass(0, 1, 9, 0), 0);
+        z.run(25);
+        due.is("21d: the first tie", z.told(0, 6), 2);
+    }
+
+    /** What comes behind an image that was gone back to has nothing of what stood in its place. */
+    private static void slotsAnew() {
+        CutCity x = city();
+        x.keep();
+        int street = x.tie(1, 0, 1, 3);
+        x.gate(street, 5, 6);
+        int pass = x.pass(0, 1, 1, 3004);
+        int parcel = x.parcel(pass, 7, 7);
+        x.take(pass);
+        int line = x.tie(2, 0, 1, 0);
+        x.stop(line, 0, 9);
+        x.cell(1);
+        x.water(4, 0, 9);
+        x.water(4, 1, 9);
+        int person = x.person(1, 9, 3);
+        x.die(person);
+        x.back();
+        int[] kinds = {0, 1, 3, 2};
+        for (int i = 0; i < 4; i++) due.is("58: anew", x.tie(kinds[i], 2, 3, 0), i);
+        for (int i = 0; i < 4; i++) {
+            int[] want = {kinds[i], 2, 3, 0, 0, kinds[i] == 1 ? 23 : 0, 0, 0, NONE, 0};
+            for (int what = 0; what < 10; what++) due.is("58: " + i + " has its own " + what, x.told(i, what), want[what]);
+        }
+        due.is("58: the line has no stops", x.train(line, 0, 0, 0), NONE);
+        due.is("58: other states", x.told(parcel, 7), 0);
+        due.is("58: a cell", x.cell(0), 4);
+        due.is("58: its use", x.water(4, 0, 0), 0);
+        due.is("58: its source", x.water(4, 1, 0), 0);
+        due.is("58: a person", x.person(4, 1, 1), 4);
+        int[] want = {4, 1, 1, 4, NONE, 0, 0, 0};
+        for (int what = 0; what < 8; what++) due.is("58: has its own " + what, x.is(4, what), want[what]);
+        for (int i = 4; i < 39; i++) x.tie(0, 0, 1, 0);
+        int last = x.tie(2, 0, 1, 0);
+        for (int i = 1; i <= 8; i++) due.is("36: the last tie", x.stop(last, i & 1, i), i);
+        for (int i = 0; i < 8; i++) due.is("37: the last tie", x.train(last, 0, i, 0), i == 0 ? 0 : (i + 1) * (i + 2) / 2 - 1 + 2 * (i - 1));
+    }
+
+    /** Letters and calls that go on, behind others that are gone, are still what they were. */
+    private static void newsInOrder() {
+        CutCity x = city();
+        int wire = x.tie(4, 0, 1, 10);
+        x.letter(0, 1);
+        x.die(0);
+        x.letter(0, 2);
+        x.die(1);
+        x.letter(1, 4);
+        x.die(2);
+        x.letter(0, 3);
+        x.call(wire, 2, 10);
+        x.call(wire, 0, 45);
+        x.call(wire, 1, 10);
+        x.keep();
+        for (int round = 0; round < 3; round++) {
+            String known = "";
+            String calls = "";
+            for (int i = 0; i < 7; i++) {
+                x.run(1);
+                known += x.is(0, 7) + "" + x.is(2, 7) + x.is(1, 6) + " ";
+                calls += x.told(wire, 9);
+            }
+            due.that("20: calls by rank: " + calls, calls.equals("2111110"));
+            due.that("19: a call brings all: " + known, known.startsWith("111 "));
+            x.back();
+        }
+        CutCity y = city();
+        y.letter(0, 1);
+        y.die(0);
+        y.letter(0, 2);
+        y.die(1);
+        y.letter(1, 4);
+        y.die(2);
+        y.letter(0, 3);
+        y.keep();
+        for (int round = 0; round < 3; round++) {
+            String known = "";
+            for (int i = 0; i < 6; i++) {
+                y.run(1);
+                known += y.is(0, 7) + "" + y.is(2, 7) + y.is(1, 6) + y.count(7) + " ";
+            }
+            due.that("19: letters: " + known, known.equals("0004 0003 1002 1101 1110 1110 "));
+            y.back();
+        }
+    }
+
+    private static void kinOfMany() {
+        java.util.Random r = new java.util.Random(3);
+        for (int run = 0; run < 30; run++) {
+            CutCity x = new CutCity();
+            Model m = new Model();
+            x.cell(0);
+            m.cell(0);
+            for (int i = 0; i < 20; i++) {
+                x.person(0, 1, 1);
+                m.person(0, 1, 1);
+            }
+            for (int i = 0; i < 40; i++) {
+                int one = r.nextInt(20), other = r.nextInt(20), c = 1 + r.nextInt(run % 5 + 1);
+                x.tie(5, one, other, c);
+                m.tie(5, one, other, c);
+            }
+            for (int i = 0; i < 20; i++) for (int k = 0; k < 20; k++) due.is("15: run " + run, x.kinship(i, k), m.kinship(i, k));
+        }
     }
 }

@@ -71,6 +71,16 @@ public final class LawTest {
         fault("crosss a", 0);
         fault("Cross a", 0);
         fault("a", 0);
+        fault("hay n", 0);
+        fault("pax n", 0);
+        fault("halta i", 0);
+        fault("pay nz", 4);
+        fault("pay za", 4);
+        fault("pay n0", 5);
+        fault("pay 9n9", 5);
+        fault("pay `", 4);
+        fault("pay n{", 5);
+        fault("pay 1:", 5);
         fault("cross", 5);
         fault("cross ", 6);
         fault("cross1", 5);
@@ -168,6 +178,9 @@ public final class LawTest {
         worth("0012", 5, 12);
         worth("1+2*3", 0, 7);
         worth("(1+2)*3", 0, 9);
+        worth("7-2*3", 0, 1);
+        worth("7-6/2+1", 0, 5);
+        worth("9-4+1", 0, 6);
         worth("7-2-1", 0, 4);
         worth("7-(2-1)", 0, 6);
         worth("24/4/3", 0, 2);
@@ -336,6 +349,13 @@ public final class LawTest {
         x.strike(all);
         x.run(25);
         unlike(x, sunday, all, 4000, 0);
+        for (int i = 0; i < 6; i++) x.run(24);
+        unlike(x, sunday, all, 0, NONE);
+        x.run(24);
+        unlike(x, all, sunday, 4000, 0);
+        unlike(x, none, adults, 82 * 40, 1800);
+        unlike(x, none, papers, 3000, 10);
+        unlike(x, none, kin, 3600, 1);
         due.is("29: key", x.unlike(all, carry, 0), KIND);
         due.is("29: key", x.unlike(carry, all, 1), KIND);
         due.is("29: what", x.unlike(all, carry, 2), BAD);
@@ -378,11 +398,16 @@ public final class LawTest {
         due.is("31: a text that is struck", x.changed(younger), 0);
         x.run(24);
         due.is("31: a text that is struck", x.changed(younger), 5);
+        int weekly = Due.law(x, 1, 2, "cross d=1");
+        due.is("30: day 2", x.visits(0) + x.visits(1), 0);
+        for (int i = 0; i < 6; i++) x.run(24);
+        due.is("30: day 8", x.visits(0), 3);
+        due.is("31: day 8", x.changed(weekly), 0);
         due.is("30: side", x.visits(2), BAD);
         due.is("30: side", x.visits(-1), BAD);
         int carry = Due.law(x, 1, 9, "carry 1");
         due.is("31: key", x.changed(carry), KIND);
-        due.is("31: text", x.changed(5), BAD);
+        due.is("31: text", x.changed(6), BAD);
         due.is("31: text", x.changed(-1), BAD);
     }
 
@@ -401,6 +426,17 @@ public final class LawTest {
         due.is("32: as 1", x.house(1, 90, 0, 0), 1);
         due.is("32: pipes", x.house(1, 9, 99, 98), 0);
         due.is("32: most", x.house(1, 99, 99, 99), 1);
+        for (String name : new String[] {"d", "f", "p"}) {
+            CutCity y = new CutCity();
+            for (int side = 0; side < 2; side++) Due.law(y, side, 0, "house " + name);
+            for (int v = 0; v < 100; v++) {
+                int doors = name.equals("d") ? v : 77, floors = name.equals("f") ? v : 66, pipes = name.equals("p") ? v : 55;
+                for (int side = 0; side < 2; side++) {
+                    int want = v / 10 > v % 10 ? 0 : v / 10 < v % 10 ? 1 : side;
+                    due.is("32: " + name + " " + v, y.house(side, doors, floors, pipes), want);
+                }
+            }
+        }
         due.is("32: side", x.house(2, 0, 0, 0), BAD);
         due.is("32: side", x.house(-1, 0, 0, 0), BAD);
         for (int v : new int[] {-1, 100}) {

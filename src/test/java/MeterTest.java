@@ -231,6 +231,7 @@ public final class MeterTest {
         Due.law(x, 1, 0, "pay n*3/2");
         Due.law(x, 0, 1, "pay n>9");
         due.is("47: of 1", x.coin(1, 0), 75);
+        due.is("47: the last day", x.coin(1, 29), NONE);
         due.is("47: of 0 not in force", x.coin(0, 0), 0);
         x.run(24);
         due.is("47: of 0", x.coin(0, 0), 1);

@@ -67,6 +67,7 @@ public final class ModelTest {
         for (int i = 0; i < 500; i++) {
             String act = acts.get(random.nextInt(acts.size()));
             String off;
+            if (act.equals("back") && random.nextInt(8) > 0) continue;
             if (act.equals("law")) off = random.nextInt(3) == 0 ? speak(Laws.any(random), side(), day(), told) : null;
             else if (act.equals("check") && random.nextBoolean()) off = tellRows(told);
             else if (act.equals("file") && (m.count(13) > 5 || m.count(14) > 5)) off = null;
