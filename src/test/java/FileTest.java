@@ -123,6 +123,16 @@ public final class FileTest {
         x.back();
         due.is("40: one again", x.pairing(0), 1);
         due.is("40: one again", x.pairing(3), BAD);
+        CutCity y = new CutCity();
+        y.file(0, 7, 50);
+        y.file(1, 7, 49);
+        y.file(1, 7, 51);
+        y.keep();
+        due.is("40: another file", y.file(0, 7, 48), 1);
+        due.is("40: gives way", y.pairing(2), 1);
+        y.back();
+        due.is("40: nothing is left of it", y.pairing(2), 0);
+        due.is("40: nothing is left of it", y.pairing(0), 1);
     }
 
     /** Ten files of each side, with few ways to pair them, so that all can be gone through. */

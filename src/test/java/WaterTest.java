@@ -10,6 +10,7 @@ public final class WaterTest {
         bothWays();
         turnedBack();
         fullCities();
+        narrowPipes();
         needs();
         stops();
         trains();
@@ -82,6 +83,16 @@ public final class WaterTest {
         int[][] ends = {{0, 1}, {0, 2}, {1, 4}, {1, 3}, {2, 4}, {3, 5}, {4, 5}};
         for (int[] e : ends) x.tie(3, e[0], e[1], 10);
         due.is("33: all", x.flow(1), 20);
+        CutCity y = new CutCity();
+        for (int i = 0; i < 6; i++) y.cell(0);
+        y.tie(3, 0, 1, 1);
+        int[][] ways = {{2, 3}, {3, 1}, {0, 4}, {4, 5}};
+        for (int[] e : ways) y.tie(3, e[0], e[1], 2);
+        y.water(0, 1, 1);
+        y.water(2, 1, 2);
+        y.water(1, 0, 1);
+        y.water(5, 0, 2);
+        due.is("33: all, with the first pipe the other way round", y.flow(1), 3);
     }
 
     /** The least cut tells the greatest flow; here all cuts are gone through. */
@@ -109,6 +120,31 @@ public final class WaterTest {
             for (int sides = 1; sides < 4; sides++) due.is("33: run " + run, x.flow(sides), m.flow(sides));
             for (int side = 0; side < 2; side++) due.is("34: run " + run, x.lack(side), m.lack(side));
             for (int i = 0; i < 3; i++) due.is("35: run " + run, x.need(i, i & 1), m.need(i, i & 1));
+        }
+    }
+
+    /** Few cells with many narrow pipes, in which ways often have to be turned round. */
+    private static void narrowPipes() {
+        Random r = new Random(8);
+        for (int run = 0; run < 1000; run++) {
+            CutCity x = new CutCity();
+            Model m = new Model();
+            int cells = 5 + r.nextInt(4);
+            for (int i = 0; i < cells; i++) {
+                x.cell(i & 1);
+                m.cell(i & 1);
+                int use = r.nextInt(3) == 0 ? r.nextInt(9) : 0, source = r.nextInt(3) == 0 ? r.nextInt(9) : 0;
+                x.water(i, 0, use);
+                m.water(i, 0, use);
+                x.water(i, 1, source);
+                m.water(i, 1, source);
+            }
+            for (int i = 0; i < 8 + r.nextInt(7); i++) {
+                int one = r.nextInt(cells), other = r.nextInt(cells), c = r.nextInt(4);
+                x.tie(3, one, other, c);
+                m.tie(3, one, other, c);
+            }
+            for (int sides = 1; sides < 4; sides++) due.is("33: narrow run " + run, x.flow(sides), m.flow(sides));
         }
     }
 
