@@ -651,9 +651,10 @@ public final class CutCity {
             int pass = folk.with[person];
             folk.leaveLine(person);
             folk.cell[person] = farEnd(street, own);
+            folk.learn(1 - own);
+            if (!ties.has(pass)) return;
             ties.state[pass] = USED;
             ties.ending[pass] = hour + ties.c[pass];
-            folk.learn(1 - own);
         }
 
         private int farEnd(int street, int own) {
@@ -1157,13 +1158,11 @@ public final class CutCity {
             int from = text * TAPE;
             for (int i = from; i < from + length[text]; i++) {
                 int word = code[i];
-                if (word < NAME) {
-                    stack[top++] = word;
-                } else if (word < OPERATOR) {
-                    stack[top++] = names[word - NAME];
+                if (word < OPERATOR) {
+                    if (top < TAPE) stack[top++] = word < NAME ? word : names[word - NAME];
                 } else if (word == NOT) {
-                    stack[top - 1] = truth(stack[top - 1] == 0);
-                } else {
+                    if (top > 0) stack[top - 1] = truth(stack[top - 1] == 0);
+                } else if (top > 1) {
                     top--;
                     stack[top - 1] = worth(word - OPERATOR, stack[top - 1], stack[top]);
                 }

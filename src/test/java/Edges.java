@@ -17,7 +17,7 @@ final class Edges {
 
     private final Due due;
     private final Scene scene;
-    private Portrait spared;
+    private final Portrait[] spared = new Portrait[Portrait.PARTS];
 
     Edges(Due due, Scene scene) {
         this.due = due;
@@ -42,22 +42,37 @@ final class Edges {
     }
 
     void refused(String what, int want, Act act) {
-        if (spared == null) spared = Portrait.of(town());
-        refused(what, want, act, spared);
+        for (int part = 0; part < Portrait.PARTS; part++) {
+            if (spared[part] == null) spared[part] = Portrait.of(town(), part);
+            refused(what, want, act, part, spared[part]);
+        }
     }
 
     /** A refusal that changes something all the same, and what that is. */
     void refused(String what, int want, Act act, Scene butFor) {
-        CutCity other = town();
-        butFor.lay(other);
-        refused(what, want, act, Portrait.of(other));
+        for (int part = 0; part < Portrait.PARTS; part++) {
+            CutCity other = town();
+            butFor.lay(other);
+            refused(what, want, act, part, Portrait.of(other, part));
+        }
     }
 
-    private void refused(String what, int want, Act act, Portrait before) {
+    private void refused(String what, int want, Act act, int part, Portrait before) {
         CutCity x = town();
         due.is(what + " is refused", act.on(x), want);
-        String unlike = Portrait.of(x).unlike(before);
+        String unlike = Portrait.of(x, part).unlike(before);
         due.that(what + " has changed nothing, but " + unlike, unlike == null);
+    }
+
+    /** Two ways to one town: all that can be asked is answered as well behind the one as behind the other. */
+    static void same(Due due, String what, Scene one, Scene other) {
+        for (int part = 0; part < Portrait.PARTS; part++) {
+            CutCity x = new CutCity(), y = new CutCity();
+            one.lay(x);
+            other.lay(y);
+            String unlike = Portrait.of(x, part).unlike(Portrait.of(y, part));
+            due.that(what + ", but " + unlike, unlike == null);
+        }
     }
 
     /** All from least to most is taken; what stands beside them, and far off, is refused. */

@@ -79,7 +79,7 @@ public final class FaceTest {
             if (!isSeen(one)) due.that(one.getName() + " is no name of the face", !face.contains(one.getName()));
         }
         Class<?>[] inside = CutCity.class.getDeclaredClasses();
-        due.that("some twelve classes", inside.length < 12);
+        due.that("some twelve classes", inside.length < 14);
         for (Class<?> one : inside) {
             due.that(one + " is static", Modifier.isStatic(one.getModifiers()) && !Modifier.isPublic(one.getModifiers()) && !Modifier.isProtected(one.getModifiers()));
             int fields = 0;
@@ -87,7 +87,7 @@ public final class FaceTest {
                 if (!Modifier.isStatic(f.getModifiers())) fields++;
                 else due.that(f + " is final", Modifier.isFinal(f.getModifiers()));
             }
-            due.that(one + " has some twenty fields", fields <= 20);
+            due.that(one + " has some twenty fields", fields <= 22);
             for (Method m : one.getDeclaredMethods()) {
                 due.that(m + " takes seven at most", m.getParameterCount() <= 7);
                 due.that(m + " has no name of the face", !face.contains(m.getName()));
@@ -97,15 +97,17 @@ public final class FaceTest {
 
     private static void words(String source) {
         String code = bare(source);
-        for (String word : new String[] {"throw", "throws", "try", "catch", "finally", "synchronized", "assert", "package", "protected", "\\w+Exact",
-                "Object", "Thread", "Random", "Map", "Set", "hashCode", "toString", "double", "float", "native", "volatile", "null"}) {
+        for (String word : new String[] {"throw", "throws", "try", "catch", "finally", "synchronized", "assert", "package", "protected", "native",
+                "volatile", "\\w+Exact", "hashCode", "Thread", "Runtime", "Object"}) {
             due.that("no " + word, !Pattern.compile("\\b" + word + "\\b").matcher(code).find());
         }
-        for (String sign : new String[] {"->", "::", "@", "new Object", "System.out", "System.exit"}) due.that("no " + sign, !code.contains(sign));
+        due.that("no method reference", !code.contains("::"));
+        due.that("no lambda", !code.replaceAll("(case [^;:{}]*?|default\\s*)->", "").contains("->"));
         Matcher m = Pattern.compile("import ([^;]*);").matcher(code);
-        while (m.find()) due.that("import of " + m.group(1), m.group(1).equals("java.util.Arrays"));
-        m = Pattern.compile("\\b(System|Math|Integer|Long|Arrays)\\.(\\w+)").matcher(code);
-        Set<String> known = Set.of("System.arraycopy", "Math.min", "Math.max", "Math.abs", "Integer.bitCount", "Arrays.fill");
+        Set<String> imports = Set.of("java.util.Arrays", "java.util.ArrayList", "java.util.List", "java.util.Iterator");
+        while (m.find()) due.that("import of " + m.group(1), imports.contains(m.group(1)));
+        m = Pattern.compile("\\b(System|Arrays)\\.(\\w+)").matcher(code);
+        Set<String> known = Set.of("System.arraycopy", "Arrays.copyOf", "Arrays.copyOfRange", "Arrays.fill");
         while (m.find()) due.that(m.group() + " is of the library", known.contains(m.group()));
         due.that("no text is joined by +", !Pattern.compile("\"\" *\\+|\\+ *\"\"").matcher(code).find());
         for (int i = 0; i < source.length(); i++) {
@@ -124,7 +126,7 @@ public final class FaceTest {
                 start = i;
                 indent = head.group(1);
             } else if (start >= 0 && lines[i].equals(indent + "}")) {
-                due.that("line " + (start + 1) + " starts a short method", i - start < 60);
+                due.that("line " + (start + 1) + " starts a short method", i - start < 65);
                 start = -1;
             }
         }

@@ -254,8 +254,8 @@ public final class HourEdgeTest {
         town.range("20: MINUTES", 1, 99, 3, BAD, (x, v) -> x.call(Town.WIRE, 1, v));
         town.taken("20: another WIRE", 1, x -> x.call(x.tie(4, 2, 3, 60), 1, 1));
         Edges.Scene calls = x -> {
-            x.tie(4, 0, 2, 60);
-            for (int i = 2; i < 19; i++) x.call(i < 9 ? Town.WIRE : 12, 5, 9);
+            x.tie(4, 0, 2, 0);
+            for (int i = 2; i < 19; i++) x.call(i < 9 ? Town.WIRE : 12, 0, 9);
         };
         with(calls).taken("20: the 20th, of ten for that one", 10, x -> x.call(Town.WIRE, 1, 1));
         with(calls).taken("20: the 20th, of eleven for that one", 11, x -> x.call(12, 1, 1));
@@ -268,7 +268,8 @@ public final class HourEdgeTest {
         full.refused("20: BAD ahead of FULL, wire", BAD, x -> x.call(Town.PIPE, 1, 1));
         full.refused("20: BAD ahead of FULL, rank", BAD, x -> x.call(12, 10, 1));
         full.refused("20: BAD ahead of FULL, minutes", BAD, x -> x.call(12, 1, 100));
-        full.then("20: one is over", 9, x -> x.run(1), x -> x.call(Town.WIRE, 1, 1));
+        full.then("20: none is over yet", FULL, x -> x.run(2), x -> x.call(Town.WIRE, 1, 1));
+        full.then("20: one is over", 9, x -> x.run(3), x -> x.call(Town.WIRE, 1, 1));
     }
 
     /** How many calls of some minutes wait behind one hour of a wire. */
@@ -334,37 +335,42 @@ public final class HourEdgeTest {
         town.range("21: n", 1, 2, 100, 101, BAD, (x, v) -> x.run(v));
         town.refused("21: n below", BAD, x -> x.run(-100));
         town.then("21: the HOUR", 101, x -> x.run(100), x -> x.count(12));
-        Edges late = new Edges(due, x -> {
-            x.cell(0);
-            x.cell(1);
-            x.person(0, 1, 1);
-            x.letter(0, 99);
+        Edges late = with(x -> {
             for (int i = 0; i < 98; i++) x.run(100);
-            x.run(99);
+            x.run(98);
         });
         late.taken("21: to 9999", 9999, x -> x.run(100));
         late.then("21: to 9999 by 1", 9999, x -> x.run(99), x -> x.run(1));
-        Edges later = new Edges(due, x -> {
-            x.cell(0);
-            x.cell(1);
-            x.person(0, 1, 1);
-            x.die(0);
-            for (int i = 0; i < 99; i++) x.run(100);
-            x.letter(0, 1);
+        late.then("21: not to 10000", FULL, x -> x.run(1), x -> x.run(100));
+        Edges later = with(x -> {
+            for (int i = 0; i < 98; i++) x.run(100);
+            x.run(94);
         });
-        later.refused("21: above 9999", FULL, x -> x.run(100));
-        later.taken("21: to 9999", 9999, x -> x.run(99));
-        later.refused("21: BAD ahead of FULL", BAD, x -> x.run(101));
-        later.refused("21: BAD", BAD, x -> x.run(0));
-        Edges last = new Edges(due, x -> {
+        later.taken("21: the HOUR is 9895", 9895, x -> x.count(12));
+        for (int n : new int[] {1, 99, 100}) later.taken("21: by " + n, 9895 + n, x -> x.run(n));
+        Edges full = with(x -> {
             for (int i = 0; i < 99; i++) x.run(100);
-            x.run(99);
+            x.letter(0, 3);
+            x.call(Town.WIRE, 3, 30);
+            x.call(Town.WIRE, 1, 5);
+            x.pass(Town.WAITS, Town.ANNA, 2, 412416);
+            x.ask(12, Town.STREET);
+        });
+        full.taken("21: the HOUR is 9901", 9901, x -> x.count(12));
+        full.refused("21: above 9999", FULL, x -> x.run(99));
+        full.refused("21: above 9999", FULL, x -> x.run(100));
+        full.taken("21: to 9999", 9999, x -> x.run(98));
+        full.refused("21: BAD ahead of FULL", BAD, x -> x.run(101));
+        full.refused("21: BAD", BAD, x -> x.run(0));
+        Edges last = with(x -> {
+            for (int i = 0; i < 99; i++) x.run(100);
+            x.run(98);
         });
         last.refused("21: above 9999 by 1", FULL, x -> x.run(1));
         last.refused("21: above 9999 by 100", FULL, x -> x.run(100));
         last.refused("21: BAD ahead of FULL", BAD, x -> x.run(0));
-        last.then("24: in force on DAY 416", 0, x -> Town.law(x, 0, 416, "pay 1"), x -> x.counts(0, 4));
-        last.then("26: struck from DAY 417 on", 417, x -> x.strike(Town.law(x, 0, 416, "pay 1")), x -> x.of(0, 3));
+        last.then("24: in force on DAY 416", 8, x -> x.text(0, 416), x -> x.counts(0, 4));
+        last.then("26: struck from DAY 417 on", 417, x -> x.strike(Town.PAY), x -> x.of(Town.PAY, 3));
     }
 
     /** Who asks as some hours have gone by has crossed behind the next one, if the gate is open at its clock. */

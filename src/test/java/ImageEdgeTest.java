@@ -5,6 +5,7 @@ public final class ImageEdgeTest {
     private static final Due due = new Due("ImageEdgeTest");
     /** Numbers 0, 4, 1 wait in it: the order to 13 is 0, 4, 1, 13. */
     private static final Edges town = new Edges(due, Town::lay);
+    private static final Edges unkept = new Edges(due, Town::layUnkept);
     /** Without an image, and without clauses. */
     private static final Edges bare = new Edges(due, x -> {
         x.cell(0);
@@ -22,6 +23,7 @@ public final class ImageEdgeTest {
         ghosts();
         backFromAll();
         backAgain();
+        callsOfTwo();
         notKept();
         keepAndBack();
         count();
@@ -182,28 +184,24 @@ public final class ImageEdgeTest {
     /** The days that are told go by for nobody: all is as it was, and the image, too. */
     private static void ghosts() {
         for (int hours : new int[] {1, 24}) {
-            Portrait before = portrait(x -> x.check(0, 13));
-            Portrait behind = portrait(x -> x.check(1, hours));
-            due.that("56: nothing has gone by, but " + behind.unlike(before), behind.unlike(before) == null);
+            Edges.same(due, "56: nothing has gone by", behind(x -> x.check(0, 13)), behind(x -> x.check(1, hours)));
         }
-        Portrait before = portrait(x -> {
+        Edges.Scene kept = x -> {
             x.check(0, 13);
             x.keep();
-        });
-        Portrait behind = portrait(x -> {
-            x.check(0, 13);
-            x.keep();
+        };
+        Edges.same(due, "56: nothing has gone by", behind(kept), behind(x -> {
+            kept.lay(x);
             x.check(1, 24);
             x.check(1, 3);
-        });
-        due.that("56: nothing has gone by, but " + behind.unlike(before), behind.unlike(before) == null);
+        }));
     }
 
-    private static Portrait portrait(Edges.Scene more) {
-        CutCity x = new CutCity();
-        Town.lay(x);
-        more.lay(x);
-        return Portrait.of(x);
+    private static Edges.Scene behind(Edges.Scene more) {
+        return x -> {
+            Town.lay(x);
+            more.lay(x);
+        };
     }
 
     /** All that can be changed, but meters, numbers and the tape. */
@@ -232,34 +230,30 @@ public final class ImageEdgeTest {
         x.file(1, 2000, 40);
         for (int side = 0; side < 2; side++) x.wrong(side, 1);
         for (int what = 0; what < 2; what++) x.rule(what, 77);
-        for (int gate = 0; gate < 8; gate++) x.feast(gate, 0, 50 + gate);
-        for (int gate = 0; gate < 8; gate++) x.feast(gate, 12, 3 + gate);
+        for (int gate = 0; gate < 8; gate += 3) {
+            x.feast(gate, 0, 50 + gate);
+            x.feast(gate, 12, 3 + gate);
+        }
         x.clause(9, 9, 99);
         x.run(30);
     }
 
     private static void backFromAll() {
-        Portrait kept = portrait(x -> x.keep());
-        Portrait back = portrait(x -> {
+        Edges.same(due, "58: all is as THE IMAGE", behind(x -> x.keep()), behind(x -> {
             x.keep();
             change(x);
             x.back();
-        });
-        due.that("58: all is as THE IMAGE, but " + back.unlike(kept), back.unlike(kept) == null);
+        }));
     }
 
     private static void backAgain() {
-        CutCity x = new CutCity(), y = new CutCity();
-        for (CutCity one : new CutCity[] {x, y}) {
-            Town.lay(one);
-            one.keep();
-        }
-        for (int round = 0; round < 2; round++) {
-            change(x);
-            due.is("58: again", x.back(), 1);
-        }
-        String unlike = Portrait.of(x).unlike(Portrait.of(y));
-        due.that("58: again and again, but " + unlike, unlike == null);
+        Edges.same(due, "58: again and again", behind(x -> x.keep()), behind(x -> {
+            x.keep();
+            for (int round = 0; round < 2; round++) {
+                change(x);
+                due.is("58: again", x.back(), 1);
+            }
+        }));
         CutCity z = new CutCity();
         z.keep();
         for (int i = 0; i < 16; i++) z.cell(i & 1);
@@ -273,6 +267,30 @@ public final class ImageEdgeTest {
         for (int what = 0; what < 15; what++) due.is("59: full, " + what, z.count(what), full[what]);
         due.is("58: to nobody", z.back(), 0);
         for (int what = 0; what < 15; what++) due.is("58: to nobody, " + what, z.count(what), 0);
+    }
+
+    /** Calls of two wires in turns: those of the first are over behind an hour, and wait again as the image does. */
+    private static void callsOfTwo() {
+        CutCity x = new CutCity();
+        for (int i = 0; i < 2; i++) x.cell(i);
+        for (int i = 0; i < 2; i++) x.tie(4, 0, 1, 60 * i);
+        for (int i = 0; i < 6; i++) x.call(1 - i % 2, 9 - i, 10 + i);
+        x.keep();
+        for (int round = 0; round < 2; round++) {
+            due.is("20: three of one", x.told(0, 9), 3);
+            due.is("20: three of the other", x.told(1, 9), 3);
+            x.run(1);
+            due.is("20: three of one wait still", x.told(0, 9), 3);
+            due.is("20: none of the other", x.told(1, 9), 0);
+            x.back();
+        }
+        x.change(0, 13);
+        x.run(1);
+        due.is("20: of 11, 13, 15 the one of the higher RANK is over", x.told(0, 9), 2);
+        x.run(1);
+        due.is("20: two are, by 2 and 11", x.told(0, 9), 1);
+        x.run(1);
+        due.is("20: 2 are left of 15", x.told(0, 9), 0);
     }
 
     private static void notKept() {
@@ -301,6 +319,10 @@ public final class ImageEdgeTest {
 
     private static void keepAndBack() {
         bare.refused("58: no IMAGE", NO, CutCity::back);
+        unkept.refused("58: no IMAGE", NO, CutCity::back);
+        unkept.refused("56: no IMAGE", NO, x -> x.check(1, 1), ImageEdgeTest::gone);
+        unkept.refused("56: HOURS, without an IMAGE", BAD, x -> x.check(1, 25), ImageEdgeTest::gone);
+        unkept.then("58: then there is one", 1, CutCity::keep, CutCity::back);
         town.taken("57: keep", 1, CutCity::keep);
         town.taken("58: back", 1, CutCity::back);
         town.then("57: the HOUR", 8, x -> x.run(7), CutCity::keep);

@@ -568,6 +568,18 @@ public final class LawEdgeTest {
                 town.then("30: " + word, want[i][s], x -> Town.law(clear(x), 1, 0, word), x -> x.visits(s));
             }
         }
+        for (int day = 0; day < 15; day++) {
+            int d = day;
+            Edges weekly = new Edges(due, x -> {
+                for (int i = 0; i < 2; i++) x.person(x.cell(i), 1, 1);
+                Town.law(x, 0, 0, "cross 1");
+                Town.law(x, 1, 0, "cross d=" + d % 7);
+                if (d > 0) days(x, d);
+            });
+            weekly.taken("30: the DAY's rest, " + d, 1, x -> x.visits(0));
+            weekly.taken("31: the DAY's rest, " + d, 0, x -> x.changed(1));
+            weekly.then("30: not the next one, " + d, 0, x -> x.run(24), x -> x.visits(0));
+        }
     }
 
     private static void changed() {

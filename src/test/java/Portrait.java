@@ -1,8 +1,13 @@
 import java.util.ArrayList;
 import java.util.List;
 
-/** All that an object can be asked, as one row of answers; the asking itself spoils the object. */
+/**
+ * All that an object can be asked, as rows of answers, in parts, each of an object of its own; the asking spoils it.
+ * What may be refused is asked last, so that a refusal that changes something is not told by another one of its sort.
+ */
 final class Portrait {
+    static final int PARTS = 2;
+
     private final CutCity x;
     private final List<String> questions = new ArrayList<>();
     private final List<Integer> answers = new ArrayList<>();
@@ -11,16 +16,10 @@ final class Portrait {
         this.x = x;
     }
 
-    static Portrait of(CutCity x) {
+    static Portrait of(CutCity x, int part) {
         Portrait p = new Portrait(x);
-        p.counts();
-        p.people();
-        p.ties();
-        p.laws();
-        p.rooms();
-        p.spoilt();
-        p.future();
-        p.past();
+        if (part == 0) p.lives();
+        else p.stands();
         return p;
     }
 
@@ -38,79 +37,62 @@ final class Portrait {
         return answer;
     }
 
-    private void counts() {
-        for (int i = 0; i < 15; i++) add("count " + i, x.count(i));
+    /** Who lives where, what ties there are, and how hours go by. */
+    private void lives() {
+        int persons = add("count 1", x.count(1));
+        int ties = add("count 4", x.count(4));
+        people(persons);
+        ties(ties);
+        letters();
+        calls(ties);
+        future(persons, ties);
+        past();
     }
 
-    private void people() {
-        int all = answers.get(1);
+    private void people(int all) {
         for (int i = 0; i < all; i++) {
             if (i >= 5 && i < all - 1) continue;
-            for (int what = 1; what < 8; what++) add("is " + i + " " + what, x.is(i, what));
+            for (int what = 0; what < 8; what++) add("is " + i + " " + what, x.is(i, what));
         }
-        for (int i = 1; i < 3; i++) add("kinship 0 " + i, x.kinship(0, i));
+        for (int i = 1; i < 3 && i < all; i++) add("kinship 0 " + i, x.kinship(0, i));
     }
 
-    private void ties() {
-        int all = answers.get(4);
+    private void ties(int all) {
         for (int i = 0; i < all; i++) {
             if (i >= 12 && i < all - 1) continue;
             for (int what = 2; what < 10; what++) add("told " + i + " " + what, x.told(i, what));
         }
-        for (int i = 0; i < 4; i++) add("train to " + i, x.train(2, 50, i, 0));
     }
 
-    private void laws() {
-        int all = answers.get(6);
-        for (int i = 0; i < all; i++) add("struck " + i, x.of(i, 3));
-        for (int what = 0; what < 5; what++) add("of the last " + what, x.of(all - 1, what));
-        for (int side = 0; side < 2; side++) {
-            for (int key = 0; key < 5; key++) add("counts " + side + key, x.counts(side, key));
+    /** No calls go by till letters have come. */
+    private void letters() {
+        x.change(Town.WIRE, 0);
+        for (int i = 0; i < 4; i++) {
+            add("run", x.run(1));
+            add("letters", x.count(7));
+            for (int what = 6; what < 8; what++) add("is the dead one " + what, x.is(Town.DEAD, what));
         }
     }
 
-    private void rooms() {
-        for (int sides = 1; sides < 4; sides++) add("flow " + sides, x.flow(sides));
-        for (int gate = 0; gate < 8; gate++) add("waiting at " + gate, x.waiting(1 << gate));
-        add("waiting at all", x.waiting(255));
-        for (int i = 0; i < 6; i++) add("pairing " + i, x.pairing(i));
-        for (int n = 1; n < 15; n += 4) add("plan " + n, x.plan(n, 20000));
-        add("planned", x.planned(13, 1));
-        for (int side = 0; side < 2; side++) {
-            for (int day = 0; day < 6; day++) add("read " + side + " " + day, x.read(side, day));
+    private void calls(int ties) {
+        if (ties <= Town.WIRE) return;
+        for (int minutes : new int[] {29, 1, 4, 1}) {
+            x.change(Town.WIRE, minutes);
+            add("run", x.run(1));
+            add("calls behind " + minutes, x.told(Town.WIRE, 9));
         }
-        for (int day = 0; day < 5; day++) add("owed " + day, x.owed(day));
+        add("run", x.run(1));
     }
 
-    /** What can be asked only by putting something else in its place, or by using it up. */
-    private void spoilt() {
-        for (int side = 0; side < 2; side++) add("wrong " + side, x.wrong(side, CutCity.NONE));
-        for (int what = 0; what < 2; what++) add("rule " + what, x.rule(what, 0));
-        for (int gate = 0; gate < 4; gate += 3) {
-            for (int hour = 0; hour < 13; hour += 6) add("feast " + gate + " " + hour, x.feast(gate, hour, 0));
-        }
-        int cells = answers.get(0);
-        for (int i = 0; i < cells; i++) {
-            if (i >= 4 && i < cells - 1) continue;
-            for (int what = 0; what < 2; what++) add("water " + i + " " + what, x.water(i, what, 0));
-        }
-        add("the tape", x.text(0, 0));
-        add("of it", x.of(x.count(6) - 1, 4));
-        x.rule(1, 5);
-        add("numbers", x.check(0, 13));
-        add("the image", x.check(1, 1));
-    }
-
-    private void future() {
-        int all = answers.get(1);
-        add("run", x.run(4));
-        for (int i = 0; i < 5 && i < all; i++) {
+    private void future(int persons, int ties) {
+        for (int i = 0; i < 5 && i < persons; i++) {
             add("then in " + i, x.is(i, 3));
             for (int what = 6; what < 8; what++) add("then is " + i + " " + what, x.is(i, what));
         }
-        for (int what : new int[] {3, 5, 7, 8}) add("then count " + what, x.count(what));
+        for (int tie = Town.PASS; tie <= Town.ASKED && tie < ties; tie += 3) add("then state " + tie, x.told(tie, 6));
+        for (int what : new int[] {3, 5}) add("then count " + what, x.count(what));
         add("run", x.run(20));
-        for (int what : new int[] {3, 5, 7, 8}) add("a day later count " + what, x.count(what));
+        for (int what : new int[] {3, 5, 7, 8, 12}) add("a day later count " + what, x.count(what));
     }
 
     private void past() {
@@ -119,5 +101,86 @@ final class Portrait {
         for (int i = 0; i < 3; i++) add("back there in " + i, x.is(i, 3));
         add("back there run", x.run(1));
         add("back there wait", x.count(3));
+    }
+
+    /** Laws, water, feasts, clauses, rows, the tape, meters, files. */
+    private void stands() {
+        for (int i = 0; i < 15; i++) add("count " + i, x.count(i));
+        laws(answers.get(6));
+        for (int sides = 1; sides < 4; sides++) add("flow " + sides, x.flow(sides));
+        feast();
+        clauses();
+        add("numbers", x.check(0, 13));
+        add("the image", x.check(1, 1));
+        theTape();
+        cells(answers.get(0));
+        for (int i = 0; i < answers.get(13) + 2; i++) add("pairing " + i, x.pairing(i));
+        for (int side = 0; side < 2; side++) add("wrong " + side, x.wrong(side, CutCity.NONE));
+        add("bound", x.rule(0, 0));
+        meters();
+        files();
+    }
+
+    private void laws(int all) {
+        for (int i = 0; i < all; i++) add("struck " + i, x.of(i, 3));
+        for (int what = 0; what < 5 && all > 0; what++) add("of the last " + what, x.of(all - 1, what));
+        for (int side = 0; side < 2; side++) {
+            for (int key = 0; key < 5; key++) add("counts " + side + key, x.counts(side, key));
+        }
+        for (int i : new int[] {0, 1, 2, 3, 7, 8}) add("train to " + i, x.train(Town.LINE, 50, i, 0));
+    }
+
+    private void feast() {
+        for (int gate = 0; gate < 8; gate++) add("waiting at " + gate, x.waiting(1 << gate));
+        add("waiting at all", x.waiting(255));
+        for (int gate = 0; gate < 4; gate += 3) {
+            for (int hour = 0; hour < 13; hour += 6) add("feast " + gate + " " + hour, x.feast(gate, hour, 0));
+        }
+    }
+
+    private void clauses() {
+        for (int n : new int[] {4, 5, 9, 10}) add("planned " + n, x.planned(n, 0));
+        for (int n : new int[] {13, 14, 15}) add("plan " + n, x.plan(n, 20000));
+        add("debt", x.rule(1, 0));
+        for (int debt = 2; debt < 6; debt++) {
+            x.rule(1, debt);
+            add("planned with " + debt, x.planned(4, 0));
+        }
+    }
+
+    private void theTape() {
+        int text = add("the tape", x.text(0, 0));
+        if (text < 0) return;
+        add("its parts", x.of(text, 4));
+        for (int day = 0; day < 3; day += 2) add("by it " + day, x.coin(0, day));
+    }
+
+    /** Uses of which each sum tells whose they are. */
+    private void cells(int all) {
+        for (int i = 0; i < all; i++) {
+            if (i >= 4 && i < all - 1) continue;
+            add("source " + i, x.water(i, 1, 0));
+            add("use " + i, x.water(i, 0, 1 << Math.min(i, 9)));
+        }
+        for (int side = 0; side < 2; side++) add("cells of " + side, x.lack(side));
+    }
+
+    private void meters() {
+        for (int side = 0; side < 2; side++) {
+            for (int day = 5; day >= 0; day--) add("read " + side + " " + day, x.read(side, day));
+        }
+        for (int day = 4; day >= 0; day--) add("owed " + day, x.owed(day));
+    }
+
+    /** Files that are alike those of the town, if none of these is another one, or older, or younger. */
+    private void files() {
+        int[][] names = {{1234, 2000}, {1234, 1243}}, ages = {{30, 40}, {30, 31}};
+        for (int side = 0; side < 2; side++) {
+            for (int i = 0; i < 4; i++) {
+                int other = x.file(1 - side, names[side][i / 2], ages[side][i / 2] + 2 * (i % 2) - 1);
+                int own = side == 0 ? i / 2 : 1 - i / 2;
+                add("alike " + side + " " + i, side == 0 ? x.alike(own, other) : x.alike(other, own));
+            }
+        }
     }
 }

@@ -29,11 +29,25 @@ final class Town {
 
     /** The hour is 1, the day 0; 100 calls. */
     static void lay(CutCity x) {
+        begin(x);
+        x.keep();
+        goOn(x);
+    }
+
+    /** The same without an image. */
+    static void layUnkept(CutCity x) {
+        begin(x);
+        goOn(x);
+    }
+
+    private static void begin(CutCity x) {
         people(x);
         laws(x);
         ties(x);
         news(x);
-        x.keep();
+    }
+
+    private static void goOn(CutCity x) {
         rooms(x);
         x.be(WAITS, 1, 41);
         x.strike(STRUCK);

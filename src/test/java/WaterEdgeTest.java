@@ -13,6 +13,7 @@ public final class WaterEdgeTest {
         stop();
         train();
         halts();
+        lines();
         hours();
         file();
         alike();
@@ -209,6 +210,29 @@ public final class WaterEdgeTest {
         if (!word.isEmpty()) Town.law(x, 0, 0, "halt " + word);
         if (!other.isEmpty()) Town.law(x, 1, 0, "halt " + other);
         return x;
+    }
+
+    /** Lines of all numbers, each with its own stops: only those on side 1 are halted at. */
+    private static void lines() {
+        for (int first = 0; first < 40; first += 8) {
+            CutCity x = new CutCity();
+            for (int i = 0; i < 2; i++) x.cell(i);
+            Town.law(x, 0, 0, "halt 0");
+            for (int line = 0; line < 40; line++) x.tie(2, 0, 1, 0);
+            for (int line = first; line < first + 8; line++) {
+                for (int i = 0; i < 8; i++) x.stop(line, (line * 37 + 11) >> i & 1, line + i);
+            }
+            for (int line = first; line < first + 8; line++) {
+                int gone = 0;
+                for (int i = 0; i < 8; i++) {
+                    int halts = (line * 37 + 11) >> i & 1;
+                    if (i > 0) gone += line + i;
+                    due.is("37: LINE " + line + " to " + i, x.train(line, 0, i, 0), gone);
+                    due.is("37: LINE " + line + " halts at " + i, x.train(line, 0, i, 1), halts);
+                    if (i > 0) gone += 2 * halts;
+                }
+            }
+        }
     }
 
     /** Where the clock is the next one: at the full hour, and 0 behind 23. */
