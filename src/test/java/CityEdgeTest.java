@@ -194,7 +194,9 @@ public final class CityEdgeTest {
             int person = i;
             town.taken("7: " + i, 1, x -> x.die(person));
         }
-        for (int v : new int[] {-1, 5, MIN, MAX}) town.refused("7: PERSON " + v, BAD, x -> x.die(v));
+        int[] nobody = {-1, 5, 20, 32, 32 + Town.DEAD, Town.DEAD - 32, MIN, MAX};
+        for (int v : nobody) town.refused("7: PERSON " + v, BAD, x -> x.die(v));
+        for (int v : nobody) town.refused("5: PERSON " + v, BAD, x -> x.is(v, 5));
         town.refused("7: is DEAD", NO, x -> x.die(Town.DEAD));
         town.taken("7: all are", 5, x -> {
             for (int i = 0; i < 4; i++) x.die(i);

@@ -346,5 +346,38 @@ public final class ImageEdgeTest {
             int what = i;
             town.taken("59: " + i, want[i], x -> x.count(what));
         }
+        mostOfAll();
+    }
+
+    /** All that is counted, as full as it may be; then all are dead. */
+    private static void mostOfAll() {
+        CutCity x = new CutCity();
+        for (int i = 0; i < 16; i++) x.cell(i & 1);
+        for (int i = 0; i < 20; i++) x.person(i & 15, 1, 1);
+        for (int side = 0; side < 2; side++) Town.law(x, side, 0, "cross 1");
+        x.tie(4, 0, 1, 0);
+        x.tie(1, 0, 1, 0);
+        for (int i = 0; i < 38; i++) due.is("59: OPEN", x.count(5), x.pass(i % 20, 1 - i % 2, 1, i) - 2);
+        due.is("59: OPEN", x.count(5), 38);
+        for (int i = 0; i < 20; i++) {
+            x.call(0, 1, 1);
+            x.letter(0, 1 + i);
+            x.ask(2 + i, 1);
+        }
+        for (int i = 0; i < 60; i++) x.tell(i);
+        for (int i = 0; i < 8; i++) x.feed(i, i, i);
+        int[] most = {16, 20, 0, 20, 40, 38, 2, 20, 20, 0, 60, 96};
+        for (int what = 0; what < most.length; what++) due.is("59: the most " + what, x.count(what), most[what]);
+        for (int i = 0; i < 20; i++) {
+            due.is("59: WAIT", x.count(3), 20 - i);
+            due.is("59: DEAD", x.count(2), i);
+            x.die(i);
+        }
+        due.is("59: all are DEAD", x.count(2), 20);
+        due.is("59: nobody WAITS", x.count(3), 0);
+        due.is("59: PASSES of the DEAD are OPEN", x.count(5), 38);
+        x.run(100);
+        due.is("59: till their DAYS are over", x.count(5), 34);
+        due.is("59: all LETTERS have come", x.count(7), 0);
     }
 }
