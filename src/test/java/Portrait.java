@@ -3,10 +3,11 @@ import java.util.List;
 
 /**
  * All that an object can be asked, as rows of answers, in parts, each of an object of its own; the asking spoils it.
- * What may be refused is asked last, so that a refusal that changes something is not told by another one of its sort.
+ * What may be refused is asked last, and once more the other way round, so that all else is asked ahead of each
+ * refusal: one that changes something would hide that others of its sort did.
  */
 final class Portrait {
-    static final int PARTS = 2;
+    static final int PARTS = 3;
 
     private final CutCity x;
     private final List<String> questions = new ArrayList<>();
@@ -19,7 +20,8 @@ final class Portrait {
     static Portrait of(CutCity x, int part) {
         Portrait p = new Portrait(x);
         if (part == 0) p.lives();
-        else p.stands();
+        if (part == 1) p.stands();
+        for (int i = 0; i < 5 && part > 0; i++) p.refusing(part == 1 ? i : 4 - i);
         return p;
     }
 
@@ -103,22 +105,28 @@ final class Portrait {
         add("back there wait", x.count(3));
     }
 
-    /** Laws, water, feasts, clauses, rows, the tape, meters, files. */
+    /** Laws, water, feasts, rows. */
     private void stands() {
         for (int i = 0; i < 15; i++) add("count " + i, x.count(i));
         laws(answers.get(6));
         for (int sides = 1; sides < 4; sides++) add("flow " + sides, x.flow(sides));
         feast();
-        clauses();
         add("numbers", x.check(0, 13));
         add("the image", x.check(1, 1));
-        theTape();
         cells(answers.get(0));
         for (int i = 0; i < answers.get(13) + 2; i++) add("pairing " + i, x.pairing(i));
         for (int side = 0; side < 2; side++) add("wrong " + side, x.wrong(side, CutCity.NONE));
         add("bound", x.rule(0, 0));
-        meters();
-        files();
+    }
+
+    private void refusing(int i) {
+        switch (i) {
+            case 0: trains(); break;
+            case 1: clauses(); break;
+            case 2: theTape(); break;
+            case 3: meters(); break;
+            default: files();
+        }
     }
 
     private void laws(int all) {
@@ -127,6 +135,9 @@ final class Portrait {
         for (int side = 0; side < 2; side++) {
             for (int key = 0; key < 5; key++) add("counts " + side + key, x.counts(side, key));
         }
+    }
+
+    private void trains() {
         for (int i : new int[] {0, 1, 2, 3, 7, 8}) add("train to " + i, x.train(Town.LINE, 50, i, 0));
     }
 
@@ -142,7 +153,7 @@ final class Portrait {
         for (int n : new int[] {4, 5, 9, 10}) add("planned " + n, x.planned(n, 0));
         for (int n : new int[] {13, 14, 15}) add("plan " + n, x.plan(n, 20000));
         add("debt", x.rule(1, 0));
-        for (int debt = 2; debt < 6; debt++) {
+        for (int debt = 5; debt > 1; debt--) {
             x.rule(1, debt);
             add("planned with " + debt, x.planned(4, 0));
         }
