@@ -1439,7 +1439,7 @@ public final class CutCity {
             ahead[SPRING] = SPRING;
             line[0] = SPRING;
             int reached = 1;
-            for (int i = 0; i < reached; i++) {
+            for (int i = 0; i < reached && i < NODES; i++) {
                 int at = line[i];
                 for (int next = 0; next < NODES; next++) {
                     if (ahead[next] != NONE || room[at * NODES + next] == 0) continue;
@@ -1714,19 +1714,23 @@ public final class CutCity {
             return bestYears == 0 ? NO : bestYears;
         }
 
+        /** Goes through all orders that begin with the clauses that are agreed so far. */
         private void seek(int years, int agreed, int sum, int otherSum, int brought) {
             if (years >= number) return;
             for (int i = 0; i < number && triesLeft >= 0; i++) {
-                int nextSum = sum + worth[i];
-                int nextOther = otherSum + other[i];
-                if ((agreed >> i & 1) == 1 || nextSum < floor || nextOther < floor) continue;
-                triesLeft--;
-                order[years] = i;
-                if (brought + visits[i] >= wanted) {
-                    settle(years + 1);
-                } else {
-                    seek(years + 1, agreed | 1 << i, nextSum, nextOther, brought + visits[i]);
-                }
+                boolean isNew = (agreed >> i & 1) == 0;
+                if (isNew && sum + worth[i] >= floor && otherSum + other[i] >= floor) agree(i, years, agreed, sum, otherSum, brought);
+            }
+        }
+
+        private void agree(int clause, int years, int agreed, int sum, int otherSum, int brought) {
+            triesLeft--;
+            order[years] = clause;
+            int visitsThen = brought + visits[clause];
+            if (visitsThen >= wanted) {
+                settle(years + 1);
+            } else {
+                seek(years + 1, agreed | 1 << clause, sum + worth[clause], otherSum + other[clause], visitsThen);
             }
         }
 

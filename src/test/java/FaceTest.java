@@ -24,6 +24,7 @@ public final class FaceTest {
         String source = Files.readString(SOURCE);
         words(source);
         shape(source);
+        recursion(bare(source));
         due.end();
     }
 
@@ -113,6 +114,21 @@ public final class FaceTest {
         for (int i = 0; i < source.length(); i++) {
             if (source.charAt(i) > 126) due.that("sign " + (int) source.charAt(i), false);
         }
+    }
+
+    /** Who calls itself is private and static, as rule 8 has it; methods that call one another need not be. */
+    private static void recursion(String code) {
+        Matcher head = Pattern.compile("(?m)^( {4}| {8})(\\S.*?)\\b(\\w+)\\([^()]*\\) \\{$").matcher(code);
+        int seen = 0;
+        while (head.find()) {
+            seen++;
+            int end = code.indexOf("\n" + head.group(1) + "}", head.end());
+            due.that(head.group(3) + " ends", end >= 0);
+            if (end < 0) continue;
+            boolean callsItself = Pattern.compile("(?<![.\\w])" + head.group(3) + "\\(").matcher(code.substring(head.end(), end)).find();
+            due.that(head.group(3) + " calls not itself, or may", !callsItself || head.group(2).startsWith("private static "));
+        }
+        due.that("methods are seen", seen > 150);
     }
 
     /** Methods are some sixty lines long at most. */

@@ -17,6 +17,10 @@ public final class ModelTest {
         "cell person tie pass parcel told as change gate kinship take why ask letter call run feed trim text law of strike counts may unlike visits changed house flow lack need stop train file alike pairing meter put read copy wrong owed coin rule feast waiting gates clause plan planned tell check keep back count is be die water",
     };
 
+    /** Many who may cross, with passes that are open: most hours see somebody wait, cross or come home. */
+    private static final String CROWD =
+        "ask*30 run*14 is*12 told*6 why*3 take die*2 letter*4 call*6 change*2 gate*2 pass*2 be back*2 keep check*2 count*4 may";
+
     private static final int LAST_CALL = 512;
 
     private static final Map<String, Method> OURS = methods(CutCity.class);
@@ -27,6 +31,7 @@ public final class ModelTest {
     private final Model m = new Model();
     private final StringBuilder story = new StringBuilder();
     private int calls = 0;
+    private String firstOff = null;
 
     private ModelTest(long seed) {
         random = new Random(seed);
@@ -46,8 +51,8 @@ public final class ModelTest {
         Due due = new Due("ModelTest");
         Map<String, Integer> told = new HashMap<>();
         for (int i = from; i < from + runs; i++) {
-            String mood = MOODS[i % MOODS.length];
-            String off = new ModelTest(i).play(mood, told);
+            int mood = i % (MOODS.length + 1);
+            String off = mood < MOODS.length ? new ModelTest(i).settle(MOODS[mood], told) : new ModelTest(i).crowd(told);
             due.that("run " + i + " as the model's: " + off, off == null);
         }
         for (String name : OURS.keySet()) due.that(name + " is compared", told.getOrDefault(name, 0) > 0);
@@ -55,13 +60,33 @@ public final class ModelTest {
         due.end();
     }
 
-    private String play(String mood, Map<String, Integer> told) throws Exception {
+    private String settle(String mood, Map<String, Integer> told) throws Exception {
         if (random.nextInt(4) > 0) {
             for (int i = 0; i < 3; i++) both("cell", told, i & 1);
             for (int i = 0; i < 4; i++) both("person", told, i % 3, random.nextInt(100), random.nextInt(4));
             if (random.nextBoolean()) for (int i = 0; i < 2; i++) speak("cross " + (random.nextBoolean() ? "1" : "a>" + random.nextInt(40)), i, 0, told);
             if (random.nextBoolean()) for (int i = 0; i < 2; i++) speak("carry w<" + random.nextInt(99), i, 0, told);
         }
+        return play(mood, told);
+    }
+
+    private String crowd(Map<String, Integer> told) throws Exception {
+        for (int i = 0; i < 6; i++) both("cell", told, i & 1);
+        for (int i = 0; i < 12; i++) both("person", told, random.nextInt(6), random.nextInt(100), random.nextInt(4));
+        String[] laws = {"cross 1", "cross d<6", "cross a>9|k", "cross k<5"};
+        for (int i = 0; i < 2; i++) speak(laws[random.nextInt(laws.length)], i, 0, told);
+        for (int i = 0; i < 2; i++) speak("carry w<90", i, 0, told);
+        int[] ends = {0, 1, 3, 2, 0, 2, 1, 3, 4, 1};
+        for (int i = 0; i < ends.length; i += 2) both("tie", told, 1, ends[i], ends[i + 1], 1 + random.nextInt(3));
+        for (int i = 0; i < 2; i++) both("tie", told, 4, i, 2 + i, 3 + random.nextInt(20));
+        for (int i = 0; i < 4; i++) both("tie", told, 5, person(), person(), 1 + random.nextInt(4));
+        for (int i = 0; i < 24; i++) both("pass", told, passArgs());
+        for (int i = 0; i < 3; i++) both("parcel", told, args("parcel"));
+        both("keep", told);
+        return play(CROWD, told);
+    }
+
+    private String play(String mood, Map<String, Integer> told) throws Exception {
         java.util.List<String> acts = new java.util.ArrayList<>();
         for (String one : mood.split(" ")) {
             String[] parts = one.split("\\*");
@@ -69,23 +94,34 @@ public final class ModelTest {
         }
         while (calls < LAST_CALL) {
             String act = acts.get(random.nextInt(acts.size()));
-            String off;
             if (act.equals("back") && random.nextInt(8) > 0) continue;
-            if (act.equals("law")) off = random.nextInt(3) == 0 ? speak(Laws.any(random), side(), day(), told) : null;
-            else if (act.equals("check") && random.nextBoolean()) off = tellRows(told);
-            else if (act.equals("file") && (m.count(13) > 5 || m.count(14) > 5)) off = null;
-            else if (act.equals("clause") && m.count(9) > 4 && random.nextInt(4) > 0) off = null;
-            else if (act.equals("cell") && m.count(0) > 6 && random.nextInt(9) > 0) off = null;
-            else if ((act.equals("flow") || act.equals("lack") || act.equals("need")) && m.count(0) > 10 && random.nextInt(20) > 0) off = null;
-            else off = both(act, told, args(act));
-            if (off != null) return off;
+            if (act.equals("ask") && m.count(5) == 0) act = "back";
+            if (act.equals("law")) {
+                if (random.nextInt(3) == 0) speak(Laws.any(random), side(), day(), told);
+            } else if (act.equals("check") && random.nextBoolean()) {
+                tellRows(told);
+            } else if (!isTooDear(act)) {
+                both(act, told, args(act));
+            }
+            if (firstOff != null) return firstOff;
         }
         return null;
     }
 
-    /** One call on both; null: they answer the same, or an object has had all calls for which answers are promised. */
-    private String both(String act, Map<String, Integer> told, int... args) throws Exception {
-        if (calls == LAST_CALL) return null;
+    /** The model goes through all ways, which are too many of some. */
+    private boolean isTooDear(String act) {
+        switch (act) {
+            case "file": return m.count(13) > 5 || m.count(14) > 5;
+            case "clause": return m.count(9) > 4 && random.nextInt(4) > 0;
+            case "cell": return m.count(0) > 6 && random.nextInt(9) > 0;
+            case "flow": case "lack": case "need": return m.count(0) > 10 && random.nextInt(20) > 0;
+            default: return false;
+        }
+    }
+
+    /** One call on both, unless an object has had all calls for which answers are promised, or one was off already. */
+    private void both(String act, Map<String, Integer> told, int... args) throws Exception {
+        if (calls == LAST_CALL || firstOff != null) return;
         calls++;
         Object[] boxed = Arrays.stream(args).boxed().toArray();
         int got = (Integer) OURS.get(act).invoke(x, boxed);
@@ -94,22 +130,22 @@ public final class ModelTest {
         story.append(call).append(" -> ").append(want).append('\n');
         told.merge(act, 1, Integer::sum);
         told.merge(act + (want <= -1000000001 ? " " + want : want < 0 ? " -" : ""), 1, Integer::sum);
-        return got == want ? null : story + call + " answered " + got + ", the model " + want;
+        if (got != want) firstOff = story + call + " answered " + got + ", the model " + want;
     }
 
-    private String speak(String word, int side, int day, Map<String, Integer> told) throws Exception {
-        String off = both("trim", told, 0);
-        for (int i = 0; i < word.length() && off == null; i += 12) {
-            off = both("feed", told, Feeder.four(word, i), Feeder.four(word, i + 4), Feeder.four(word, i + 8));
+    private void speak(String word, int side, int day, Map<String, Integer> told) throws Exception {
+        both("trim", told, 0);
+        for (int i = 0; i < word.length(); i += 12) {
+            both("feed", told, Feeder.four(word, i), Feeder.four(word, i + 4), Feeder.four(word, i + 8));
         }
-        if (off == null) off = both("trim", told, word.length());
+        both("trim", told, word.length());
         story.append(word).append('\n');
-        return off == null ? both("text", told, side, day) : off;
+        both("text", told, side, day);
     }
 
     /** Tells rows that are due, or almost, and has them checked. */
-    private String tellRows(Map<String, Integer> told) throws Exception {
-        String off = both("check", told, 0, 0);
+    private void tellRows(Map<String, Integer> told) throws Exception {
+        both("check", told, 0, 0);
         boolean order = random.nextBoolean();
         int n = order ? 1 + random.nextInt(40) : 1 + random.nextInt(24);
         java.util.List<Integer> rows = new java.util.ArrayList<>();
@@ -131,8 +167,8 @@ public final class ModelTest {
         if (random.nextInt(4) == 0) rows.add(1);
         if (random.nextInt(4) == 0 && !rows.isEmpty()) rows.remove(rows.size() - 1);
         if (random.nextInt(4) == 0 && !rows.isEmpty()) rows.set(random.nextInt(rows.size()), random.nextInt(3));
-        for (int v : rows) if (off == null) off = both("tell", told, v);
-        return off == null ? both("check", told, order ? 0 : 1, n) : off;
+        for (int v : rows) both("tell", told, v);
+        both("check", told, order ? 0 : 1, n);
     }
 
     private int pick(int least, int most) {
@@ -170,6 +206,19 @@ public final class ModelTest {
         return all.isEmpty() || random.nextInt(20) == 0 ? anyTie() : all.get(random.nextInt(all.size()));
     }
 
+    /** A pass that can be asked for, mostly, if there is one. */
+    private int pass() {
+        java.util.List<Integer> all = new java.util.ArrayList<>();
+        for (int i = 0; i < m.count(4); i++) if (m.why(i) == 0) all.add(i);
+        return all.isEmpty() || random.nextInt(6) == 0 ? tie(6) : all.get(random.nextInt(all.size()));
+    }
+
+    private int[] passArgs() {
+        int one = person(), other = person();
+        for (int i = 0; i < 20 && m.isPerson(one) && m.isPerson(other) && m.s.side(one) == m.s.side(other) && random.nextInt(12) > 0; i++) other = person();
+        return of(one, other, pick(1, random.nextInt(3) > 0 ? 6 : 99), days());
+    }
+
     private int text() {
         return pick(0, m.count(6) - 1);
     }
@@ -202,7 +251,7 @@ public final class ModelTest {
             case "be": return of(person(), pick(1, 2), pick(0, random.nextBoolean() ? 3 : 99));
             case "die": return of(person());
             case "tie": return tieArgs();
-            case "pass": return of(person(), person(), pick(1, random.nextInt(3) > 0 ? 6 : 99), days());
+            case "pass": return passArgs();
             case "parcel": return of(tie(6), pick(1, 99), pick(0, 7));
             case "told": return of(anyTie(), pick(0, 9));
             case "as": return of(anyTie(), pick(0, 7));
@@ -210,7 +259,7 @@ public final class ModelTest {
             case "gate": return of(tie(1), pick(0, 23), pick(0, 23));
             case "kinship": return of(person(), person());
             case "take": case "why": return of(tie(6));
-            case "ask": return of(tie(6), tie(1));
+            case "ask": return of(pass(), tie(1));
             case "call": return of(tie(4), pick(0, 9), pick(1, random.nextInt(3) > 0 ? 12 : 99));
             case "run": return of(random.nextInt(6) > 0 ? pick(1, 4) : pick(1, random.nextBoolean() ? 30 : 100));
             case "feed": return of(random.nextInt(), Feeder.four("cross a<12", 0), Feeder.four("cross a<12", 4));
